@@ -18,6 +18,7 @@ public final class ModelTest {
     for (int run = 0; run < RUNS && wrong == 0; run++) {
       goThrough(run);
     }
+    ninthRound();
     System.out.println(wrong == 0 ? "model and class answer alike" : wrong + " answers differ");
     if (wrong != 0) System.exit(1);
   }
@@ -817,6 +818,28 @@ public final class ModelTest {
         calls++;
       }
     }
+  }
+
+  /** A stall whose marks would go on to change till the fourteenth round: MARKED ends with the ninth. */
+  private static void ninthRound() {
+    int[][] things = {{0, 74, 4, 6, 0, 45, 4}, {2, 60, 4, 16, 1, 57, 0}, {5, 74, 4, 18, 6, 82, 4}, {1, 16, 1, 8, 4, 84, 1},
+        {2, 69, 3, 18, 0, 81, 0}, {2, 45, 3, 17, 6, 47, 0}, {1, 66, 1, 4, 9, 23, 0}, {2, 58, 2, 4, 2, 77, 0}};
+    int[] buyers = {0, 3, 3, 6, 2, 92, 5, 3, 33, 0, 3, 65, 6, 1, 84, 5, 0, 60, 2, 1, 60, 2, 2, 1, 2, 3, 69, 1, 3, 57, 2, 2, 5,
+        4, 1, 26, 4, 0, 38, 4, 3, 43, 6, 1, 23, 3, 1, 93, 0, 2, 37, 6, 2, 54, 1, 1, 41, 1, 3, 29, 2, 0, 49, 2, 3, 40,
+        2, 2, 75, 3, 3, 63};
+    BootSale x = new BootSale();
+    Model m = new Model();
+    List<String> log = new ArrayList<>();
+    for (int i = 0; i < things.length; i++) {
+      int[] t = things[i];
+      check(x, m, log, "thing", t[0], t[1], t[2], t[3], t[4]);
+      check(x, m, log, "change", i, 2, t[5]);
+      check(x, m, log, "change", i, 3, t[6]);
+    }
+    for (int i = 0; i < buyers.length; i += 3) check(x, m, log, "buyer", buyers[i], buyers[i + 1], buyers[i + 2]);
+    check(x, m, log, "ask", 0, 26);
+    check(x, m, log, "ask", 1, 7);
+    for (int thing = -1; thing < things.length; thing++) check(x, m, log, "marked", thing);
   }
 
   private static final long[] WILD = {-1, -2, -1000, Integer.MIN_VALUE, Integer.MAX_VALUE, 7, 8, 24, 25, 31, 32, 40, 41, 99, 100, 256};

@@ -141,9 +141,16 @@ public final class PromiseTest {
     due("element of shelf 9", x.element(9, 0), 0);
     due("element of shelf -1", x.element(-1, 0), 0);
     due("nothing refused", x.status(12), refused);
-    promise = 2;
     x.row(1, 3, 40);
     due("an element of a new row behind an old one", x.element(1, 2), 0);
+    due("the last of 40", x.set(1, 39, 8), 1);
+    due("the last of 40", x.element(1, 39), 8);
+    due("behind 40", x.element(1, 40), 0);
+    due("behind 40", x.element(1, 41), 0);
+    due("set behind 40", x.set(1, 40, 8), BAD);
+    due("copied behind 40", x.copy(1, 1, 0, 1, 40), BAD);
+    due("all 40", x.copy(1, 1, 0, 0, 40), 40);
+    due("41", x.copy(1, 1, 0, 0, 41), BAD);
   }
 
   private static void copies() {
@@ -861,6 +868,15 @@ public final class PromiseTest {
     due("they don't come", y.offer(0, 1, 9), STUCK);
     due("they don't come", y.least(0, 1), STUCK);
     noOffer();
+    BootSale z = new BootSale();
+    z.thing(SMALL, 99, 1, 0, 0);
+    z.change(0, MARK, 98);
+    z.buyer(0, FAMILY, 99);
+    due("99 is the most", z.least(0, 0), 99);
+    due("99 is the most", z.offer(0, 0, 99), 1);
+    due("98 is no more", z.offer(0, 0, 98), 0);
+    z.change(0, MARK, 99);
+    due("100 may not be", z.least(0, 0), -1);
   }
 
   /** An offer for what would be sold dearer twice behind. */
@@ -928,6 +944,15 @@ public final class PromiseTest {
     due("thing -1", x.neighbour(-1, 1, 0), FAR + BAD);
     due("nothing is changed", x.gain(), 23);
     due("counted", x.status(12), 6);
+    BootSale y = new BootSale();
+    for (int i = 0; i < 8; i++) y.thing(DRAWING, 10, 1, 0, 0);
+    for (int i = 0; i < 8; i++) y.change(i, MARK, 13);
+    y.buyer(0, FAMILY, 99);
+    due("eight draw: 6 and 8, less 1", y.gain(), 6);
+    due("the others cost as much", y.neighbour(0, 12, 0), 0);
+    for (int i = 1; i < 8; i++) y.change(i, MARK, 99);
+    due("the others are dear", y.neighbour(0, 12, 0), 14);
+    due("nor for 12, if it costs 13", y.neighbour(0, 12, 1), 12);
   }
 
   private static void quicks() {
