@@ -458,7 +458,7 @@ public final class BootSale {
     }
     int before = trials.gainOf(stall);
     trials.stall.moveThing(thing, 0);
-    return trials.gainOf(trials.stall) - before;
+    return trials.gainAnew() - before;
   }
 
   public int dearest() {
@@ -688,7 +688,7 @@ public final class BootSale {
   private int worthOnTable(int thing) {
     int with = trials.gainOf(stall);
     trials.stall.removeThing(thing);
-    return with - trials.gainOf(trials.stall);
+    return with - trials.gainAnew();
   }
 
   private Morning asItIs() {
@@ -1132,9 +1132,7 @@ public final class BootSale {
     final Morning morning = new Morning();
 
     void start(Stall real) {
-      if (real != stall) {
-        stall.become(real);
-      }
+      stall.become(real);
       morning.prepare(stall);
     }
 
@@ -1145,6 +1143,13 @@ public final class BootSale {
 
     int gainOf(Stall real) {
       start(real);
+      morning.goBy();
+      return morning.gain;
+    }
+
+    /** The gain when things of the copy have come to other numbers, or gone. */
+    int gainAnew() {
+      morning.prepare(stall);
       morning.goBy();
       return morning.gain;
     }
@@ -1386,14 +1391,14 @@ public final class BootSale {
       value = 0;
       if (place >= size) {
         token = END;
-      } else if (isLetter(place)) {
+      } else if (isIn(bytes[place], 'a', 'z')) {
         token = WORD;
-        while (isLetter(behind)) {
+        while (behind < size && isIn(bytes[behind], 'a', 'z')) {
           behind++;
         }
-      } else if (isDigit(place)) {
+      } else if (isIn(bytes[place], '0', '9')) {
         token = NUMBER;
-        while (isDigit(behind)) {
+        while (behind < size && isIn(bytes[behind], '0', '9')) {
           // a number of more digits may not be, so that its value is free
           value = behind - place < MOST_DIGITS ? value * 10 + bytes[behind] - '0' : value;
           behind++;
@@ -1402,14 +1407,6 @@ public final class BootSale {
         token = bytes[place] == ';' ? SIGN : STRANGE;
         behind++;
       }
-    }
-
-    private boolean isLetter(int at) {
-      return at >= 0 && at < size && isIn(bytes[at], 'a', 'z');
-    }
-
-    private boolean isDigit(int at) {
-      return at >= 0 && at < size && isIn(bytes[at], '0', '9');
     }
   }
 }
