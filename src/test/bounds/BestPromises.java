@@ -267,7 +267,11 @@ final class BestPromises extends Check {
       due("the THING that was 0", x.holds(1), 17);
       due("another THING", x.holds(2), 13);
       due("back", x.swap(7, 0), 1);
-      due("on its SHELF", x.holds(0), 17);
+      due("the THING that was 0 again is 7", x.holds(0), 17);
+      due("the THING that was 7 again is 0", x.holds(1), 10);
+      due("another THING still", x.holds(2), 13);
+      due("two between", x.swap(3, 4), 1);
+      due("on its SHELF", x.holds(2), 14);
     });
     promise(41, "0 if they are one.", () -> {
       changesNothing("the first", Stands::stand, x -> x.swap(0, 0), 0);
@@ -294,14 +298,16 @@ final class BestPromises extends Check {
       // in this order the dealer pays 30, the family 11, the last one 1
       due("GAIN", x.gain(), 42);
       due("below 0", x.ahead(2), -30);
-      // eight of OWN 10 to 17 on one foot at noon: two are sold, those that are first
+      // eight of OWN 10 to 17 on one foot at noon: those are sold that are first
       BootSale y = new BootSale();
       y.ask(FEET, 1);
       y.ask(TIP, 0);
       for (int i = 0; i < 8; i++) y.thing(THING, 90, 1, 10 + i, 0);
-      for (int i = 0; i < 2; i++) y.buyer(6, FAMILY, 99);
+      y.buyer(6, FAMILY, 99);
+      for (int thing = 0; thing < 8; thing++) due("one is sold, thing " + thing, y.ahead(thing), thing);
+      y.buyer(6, FAMILY, 99);
       int[] more = {0, 0, 1, 2, 3, 4, 5, 6};
-      for (int thing = 0; thing < 8; thing++) due("thing " + thing, y.ahead(thing), more[thing]);
+      for (int thing = 0; thing < 8; thing++) due("two are sold, thing " + thing, y.ahead(thing), more[thing]);
     });
     promise(42, "-1000002.", () -> {
       for (int thing : outside(0, 2)) refusedFar("thing " + thing, Stands::stand, x -> x.ahead(thing), BAD);
@@ -326,6 +332,18 @@ final class BestPromises extends Check {
       // 3 is sold for 29; without it 7 would be for 30
       due("the first of those that aren't", x.dearest(), 0);
       due("one THING", Stands.alike(1, 30).dearest(), 0);
+      for (int thing = 0; thing < 8; thing++) {
+        BootSale y = Stands.alike(8, 99);
+        y.change(thing, MARK, 30);
+        y.buyer(0, FAMILY, 99);
+        due("only this one is sold", y.dearest(), thing);
+      }
+      // -1, 30, 20: the second is more than the first, the third is less again
+      BootSale z = Stands.alike(3, 99);
+      z.change(1, MARK, 30);
+      z.change(2, MARK, 20);
+      for (int i = 0; i < 2; i++) z.buyer(0, FAMILY, 99);
+      due("the greatest of all, not of two", z.dearest(), 1);
     });
     promise(43, "STUCK: no THINGS.", () -> {
       refused("a new one", Stands::empty, BootSale::dearest, STUCK);

@@ -86,6 +86,12 @@ final class ComesTerms extends Check {
       due("30 at six or 32 at seven", x.bestMark(0), 30);
       x.change(0, FROM, 1);
       due("at seven 32", x.bestMark(0), 32);
+      // less 69, 68 and 67 at eleven it is 30 by 99, 98 and 97; a MARK of 100 and more would bring more
+      BootSale late = new BootSale();
+      late.thing(THING, 99, 1, 0, 0);
+      late.ask(FALL, 14);
+      late.buyer(5, FAMILY, 99);
+      due("59 would be paid, but 99 is the most", late.bestMark(0), 97);
       due("as it was", x.thingOf(0, 5), 40);
     });
   }
@@ -163,6 +169,13 @@ final class ComesTerms extends Check {
       y.change(2, FROM, 7);
       y.change(0, FROM, 3);
       due("whatever FROM is", y.table(), 5);
+      // at noon, too, the first would keep the other off the table
+      BootSale noon = new BootSale();
+      noon.ask(TIP, 0);
+      noon.thing(THING, 90, 9, 1, 0);
+      noon.thing(THING, 90, 1, 5, 0);
+      noon.buyer(6, LAST, 99);
+      due("others stay there till the end", noon.table(), 2);
       due("as it was", y.thingOf(2, 6), 7);
     });
   }
@@ -348,6 +361,13 @@ final class ComesTerms extends Check {
       // 54 for 50 are 4 over
       due("4 over: still the first", y.neighbour(0, 5, 0), 0);
       due("3 over: the other, 50 for 1: below 0", y.neighbour(0, 4, 0), -49);
+      // 6 and 8, less 1 for itself are 13 while all eight draw
+      BootSale eight = new BootSale();
+      for (int i = 0; i < 8; i++) eight.thing(DRAWING, 10, 1, 0, 0);
+      for (int i = 0; i < 8; i++) eight.change(i, MARK, i == 7 ? 13 : 99);
+      eight.buyer(0, FAMILY, 99);
+      due("drawn by eight, just as much", eight.neighbour(7, 13, 0), 0);
+      due("drawn by eight, one less: 13, and its foot", eight.neighbour(7, 12, 0), 14);
     });
     term(3, "the MARK that is best then.", () -> {
       BootSale x = Stands.market();

@@ -120,6 +120,13 @@ final class LookPromises extends Check {
       for (int i = 0; i < 23; i++) last.buyer(0, DEALER, 99);
       last.buyer(5, FAMILY, 99);
       due("the last THING by the last BUYER", last.who(7), 23);
+      // what was so isn't any more
+      for (int thing = 0; thing < 2; thing++) {
+        due("thing " + thing, x.who(thing), thing);
+        x.change(thing, FROM, 7);
+        due("thing " + thing + " in the car", x.who(thing), NONE);
+        x.change(thing, FROM, 0);
+      }
     });
     promise(24, "BAD.", () -> {
       for (int thing : outside(0, 2)) bad("thing " + thing, x -> x.who(thing));

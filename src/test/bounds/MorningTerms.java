@@ -153,6 +153,12 @@ final class MorningTerms extends Check {
       y.buyer(0, FAMILY, 99);
       due("the first one buys what draws", y.buys(0), 1);
       due("what is sold doesn't draw", y.buys(1), NONE);
+      BootSale z = drawnOnce();
+      due("once", z.buys(0), 0);
+      z.swap(0, 1);
+      due("still once under other numbers", z.buys(0), 1);
+      z.change(1, MARK, 8);
+      due("not twice", z.buys(0), NONE);
     });
     term(2, "A BUYER would PAY for a THING: THING: WORTH times 5 (DEALER), 6 (FAMILY), 3 (LOOKER) or 2 (LAST) by 10, "
         + "and DRAWN.", () -> {

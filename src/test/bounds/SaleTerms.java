@@ -306,6 +306,12 @@ final class SaleTerms extends Check {
       for (int n = 0; n < 2; n++) {
         for (int what = 0; what < 7; what++) due("thing " + n + ", " + what, x.thingOf(n, what), want[n][what]);
       }
+      BootSale y = new BootSale();
+      due("with, then without", sale(y, "thing 4 50 3 10 with 7;thing 5 51 4 11"), 2);
+      due("a of the first", y.thingOf(0, 4), 7);
+      due("a of the second", y.thingOf(1, 4), 0);
+      due("without, by a SALE of its own", sale(y, "thing 4 50 3 10"), 1);
+      due("a of the third", y.thingOf(2, 4), 0);
       fault("thing 4 50 3", Stands::market, 12);
       fault("thing 4 50 3;", Stands::market, 12);
       fault("thing 4 50 3 with 7", Stands::market, 13);
@@ -342,6 +348,15 @@ final class SaleTerms extends Check {
       }
       for (String word : new String[] {"with", "room", "own", "a", "hour", "thin", "things"}) fault(word + " 1", Stands::market, 0);
       fault("1", Stands::market, 0);
+      for (String text : new String[] {"thing 0 9 1 0", "buyer 0 0 9", "mark 0 9", "from 0 5", "feet 9", "fall 9", "friend 1", "tip 9"}) {
+        for (int i = 0; i < text.indexOf(' '); i++) {
+          fault(text.substring(0, i) + "x" + text.substring(i + 1), Stands::market, 0);
+          fault(text.substring(0, i) + text.substring(i + 1), Stands::market, 0);
+        }
+      }
+      for (String with : new String[] {"xith", "wxth", "wixh", "witx", "wit", "ith"}) {
+        fault("thing 0 9 1 0 " + with + " 3", Stands::market, 14);
+      }
     });
   }
 
@@ -438,9 +453,22 @@ final class SaleTerms extends Check {
       fault("feet 9;", Stands::market, 7);
       fault("feet 9;  ", Stands::market, 9);
       fault("thing 0 9 1 0 with ", Stands::market, 19);
-      StringBuilder long250 = new StringBuilder("feet 9;tip");
-      while (long250.length() < 250) long250.append(' ');
-      refused("250 bytes", Stands::empty, x -> sale(x, long250.toString()), BAD, -270);
+      refused("250 bytes", Stands::empty, x -> sale(x, "feet 9;tip" + " ".repeat(240)), BAD, -270);
+      refused("250 bytes, the last a letter", Stands::empty, x -> sale(x, " ".repeat(247) + "tip"), BAD, -270);
+      due("250 bytes, the last a digit", sale(new BootSale(), " ".repeat(246) + "tip9"), 1);
+      fault(" ".repeat(40) + "tip9;", Stands::empty, 45);
+      // of a longer TAPE that was ahead nothing is read
+      for (String behind : new String[] {"x", "9", ";", " 9", ";tip 9"}) {
+        BootSale y = new BootSale();
+        feed(y, "feet" + behind);
+        y.wipe();
+        due("behind 'feet" + behind + "'", sale(y, "feet"), -24);
+        feed(y, "feet 1" + behind);
+        y.wipe();
+        due("behind 'feet 1" + behind + "'", sale(y, "feet 1"), 1);
+        due("FEET", y.status(2), 1);
+        due("TIP", y.status(5), 1);
+      }
     });
   }
 

@@ -202,6 +202,7 @@ final class ShelfPromises extends Check {
         return x;
       }, x -> x.element(0, 5), 0);
       changesNothing("of none", Stands::stand, x -> x.element(4, 0), 0);
+      for (int i : outside(0, 39)) changesNothing("i " + i + " of 40", Stands::stand, x -> x.element(3, i), 0);
       changesNothing("a THING", Stands::stand, x -> x.element(1, 0), 0);
       changesNothing("NOTHING", Stands::stand, x -> x.element(2, 0), 0);
       for (int s : outside(0, 7)) changesNothing("SHELF " + s, Stands::stand, x -> x.element(s, 0), 0);

@@ -153,6 +153,17 @@ final class TruthPromises extends Check {
       int[] moved = {10, NONE, NONE, 11, 12, NONE, NONE, 13};
       for (int s = 0; s < 8; s++) due("SHELF " + s, y.holds(s), moved[s]);
       due("those that hold something", y.status(10), 4);
+      // the first and the last SHELF, with a THING that is sold and with one that moves up
+      BootSale z = Stands.alike(2, 30);
+      z.change(1, MARK, 99);
+      z.show(0, 0);
+      z.show(1, 1);
+      z.show(6, 1);
+      z.show(7, 0);
+      z.buyer(0, FAMILY, 99);
+      z.morning();
+      int[] ends = {NONE, 10, NONE, NONE, NONE, NONE, 10, NONE};
+      for (int s = 0; s < 8; s++) due("SHELF " + s, z.holds(s), ends[s]);
     });
   }
 
