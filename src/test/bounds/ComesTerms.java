@@ -214,6 +214,20 @@ final class ComesTerms extends Check {
       for (int i = 0; i < 3; i++) due("MARK " + i, x.marked(i), marks[i]);
       BootSale settled = marksByHand(Stands.market(), 2, false);
       for (int i = 0; i < 3; i++) due("settled by two rounds", settled.thingOf(i, 5), marks[i]);
+      // the dealer buys thing 1 for 10, so the family buys nothing and no LOOKER comes: 0 for thing 0; then 99 for
+      // thing 1, which the family pays; then the LOOKER comes, and a second round finds 15 for thing 0
+      BootSale again = new BootSale();
+      again.thing(THING, 50, 1, 0, 0);
+      again.change(0, FROM, 1);
+      again.thing(SMALL, 99, 1, 0, 0);
+      again.change(1, MARK, 10);
+      again.ask(TIP, 0);
+      again.buyer(0, DEALER, 99);
+      again.buyer(0, FAMILY, 99);
+      again.buyer(1, LOOKER, 99);
+      due("a second round", again.marked(0), 15);
+      due("the most", again.marked(1), 99);
+      due("GAIN", again.marked(NONE), 114);
       BootSale back = marksByHand(longRound(), 9, true);
       due("not from the last on", same(longRound(), back) ? 1 : 0, 0);
     });
