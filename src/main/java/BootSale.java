@@ -22,6 +22,8 @@ public final class BootSale {
   private static final int MOST_PRICE = 99;
   private static final int MOST_DIGITS = 2;
   private static final int MOST_ROUNDS = 9;
+  /** No gain is as low: eight things of nine feet, all left, with a tip of nine, are -648. */
+  private static final int BELOW_GAINS = -1000;
   private static final int SHELVES = 8;
   private static final int HOURS = 7;
   private static final int NOON = 6;
@@ -1163,7 +1165,7 @@ public final class BootSale {
     private int bestValue(int[] cells, int cell, int least, int most) {
       int was = cells[cell];
       int best = least;
-      int greatest = Integer.MIN_VALUE;
+      int greatest = BELOW_GAINS;
       for (int v = least; v <= most; v++) {
         cells[cell] = v;
         int gain = gainNow();
@@ -1194,7 +1196,7 @@ public final class BootSale {
       int[] cells = stall.things[thing];
       int was = cells[MARK];
       int best = 0;
-      int greatest = Integer.MIN_VALUE;
+      int greatest = BELOW_GAINS;
       boolean mayDiffer = true;
       for (int mark = 0; mark <= MOST_PRICE && mayDiffer; mark = Math.max(mark, cells[OWN]) + 1) {
         cells[MARK] = mark;
@@ -1212,7 +1214,7 @@ public final class BootSale {
     /** Of all sets of things that are on from 0, the others in the car, the best; the copy is used up by it. */
     int bestSet() {
       int best = 0;
-      int greatest = Integer.MIN_VALUE;
+      int greatest = BELOW_GAINS;
       for (int bits = 0; bits < 1 << stall.thingCount; bits++) {
         for (int thing = 0; thing < stall.thingCount; thing++) {
           stall.things[thing][FROM] = isBit(bits, thing) ? 0 : IN_THE_CAR;

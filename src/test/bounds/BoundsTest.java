@@ -1,13 +1,14 @@
 /**
- * Each sentence of the document that names a boundary case, by a test of its own: it begins with the part it
- * stands in and the sentence's own words. Whether they stand there, and whether any words of the terms and of
- * the promises are left without a test, is held against ../shared/DOC.md. Run from the project's root.
+ * Each sentence of the document, but those of what isn't promised, by a test of its own: it begins with the part
+ * it stands in and the sentence's own words. Whether they stand there, and whether any words are left without a
+ * test, is held against ../shared/DOC.md. Run from the project's root.
  */
 public final class BoundsTest {
   private BoundsTest() { }
 
   public static void main(String[] args) {
     Doc.read();
+    HeadTerms.all();
     SaleTerms.all();
     MorningTerms.all();
     ComesTerms.all();

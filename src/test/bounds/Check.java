@@ -22,6 +22,11 @@ abstract class Check {
   private static int dues;
   private static int wrong;
 
+  /** A test of what stands ahead of the terms. */
+  static void head(String part, String sentence, Runnable test) {
+    run(part, sentence, test);
+  }
+
   /** A test of a sentence of the terms: 1, 2 or 3. */
   static void term(int part, String sentence, Runnable test) {
     run("Terms " + part, sentence, test);

@@ -2,7 +2,9 @@ import java.io.IOException;
 import java.io.UncheckedIOException;
 import java.nio.file.Files;
 import java.nio.file.Path;
+import java.util.ArrayList;
 import java.util.LinkedHashMap;
+import java.util.List;
 import java.util.Map;
 import java.util.regex.Matcher;
 import java.util.regex.Pattern;
@@ -12,6 +14,7 @@ final class Doc {
   private static final Pattern TERMS = Pattern.compile("==== (\\d)\\. [A-Z ]+(.*)");
   private static final Pattern PROMISE = Pattern.compile("## (Promise \\d+): .*");
   private static final Map<String, StringBuilder> texts = new LinkedHashMap<>();
+  private static final Map<String, List<String>> lines = new LinkedHashMap<>();
   private static final Map<String, boolean[]> held = new LinkedHashMap<>();
 
   private Doc() { }
@@ -29,7 +32,8 @@ final class Doc {
         } else if (promise.matches()) {
           part = promise.group(1);
         } else if (line.startsWith("## ")) {
-          part = "";
+          // of "Not promised" nothing is due
+          part = line.equals("## What it is") || line.equals("## The public face") ? line.substring(3) : "";
         } else if (line.startsWith("REFUSALS (")) {
           part = "REFUSALS";
           add(part, line);
@@ -47,6 +51,7 @@ final class Doc {
 
   private static void add(String part, String line) {
     String words = line.trim().replaceAll("\\s+", " ");
+    if (!words.isEmpty()) lines.computeIfAbsent(part, p -> new ArrayList<>()).add(words);
     StringBuilder text = texts.computeIfAbsent(part, p -> new StringBuilder());
     if (!words.isEmpty()) text.append(text.length() == 0 ? "" : " ").append(words);
   }
@@ -58,6 +63,11 @@ final class Doc {
     if (at < 0) return false;
     for (int i = at; i < at + sentence.length(); i++) held.get(part)[i] = true;
     return true;
+  }
+
+  /** The lines of a part, each by itself. */
+  static List<String> lines(String part) {
+    return lines.getOrDefault(part, List.of());
   }
 
   /** How many parts have words that no test holds; they are printed. */

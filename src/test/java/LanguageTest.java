@@ -5,9 +5,12 @@ import java.lang.reflect.Method;
 import java.lang.reflect.Modifier;
 import java.nio.file.Files;
 import java.nio.file.Path;
+import java.util.ArrayList;
 import java.util.Arrays;
 import java.util.List;
+import java.util.Map;
 import java.util.Set;
+import java.util.TreeMap;
 import java.util.TreeSet;
 import java.util.regex.Matcher;
 import java.util.regex.Pattern;
@@ -61,6 +64,8 @@ public final class LanguageTest {
     Constructor<?>[] made = c.getDeclaredConstructors();
     holds("1: one constructor", made.length == 1 && made[0].getParameterCount() == 0);
     holds("11: classes", c.getDeclaredClasses().length < 12);
+    long own = Arrays.stream(c.getDeclaredFields()).filter(f -> !Modifier.isStatic(f.getModifiers())).count();
+    holds("11: fields", own <= 20);
     for (Class<?> inside : c.getDeclaredClasses()) {
       holds("2: static " + inside, Modifier.isStatic(inside.getModifiers()) && !Modifier.isPublic(inside.getModifiers()));
       holds("11: fields of " + inside, inside.getDeclaredFields().length <= 20);
@@ -82,13 +87,43 @@ public final class LanguageTest {
     }
     for (String sign : List.of("->", "::", "@", "<>", "\" +", "+ \"")) holds("2, 10: " + sign, !code.contains(sign));
     Matcher library = Pattern.compile("\\b(Math|Integer|Long|System|Arrays|String)\\.(\\w+)").matcher(code);
-    List<String> allowed = List.of("Math.max", "Math.min", "Integer.bitCount", "Integer.MIN_VALUE", "System.arraycopy");
+    // functions alone: a constant as Integer.MIN_VALUE is not among what rule 4 lists
+    List<String> allowed = List.of("Math.max", "Math.min", "Integer.bitCount", "System.arraycopy");
     while (library.find()) holds("4: " + library.group(), allowed.contains(library.group()));
-    methods(code.split("\n"));
+    Map<String, Set<String>> calls = methods(code.split("\n"));
+    calls(code, calls);
   }
 
-  private static void methods(String[] lines) {
-    Pattern head = Pattern.compile("^(  |    )((public|private|static|final) )*[\\w\\[\\]]+ \\w+\\(([^)]*)\\) \\{$");
+  /** Only methods of the file and what rule 4 lists is called; no recursion, and no more than eight calls stand open. */
+  private static void calls(String code, Map<String, Set<String>> calls) {
+    List<String> others = List.of("max", "min", "bitCount", "arraycopy", "charAt", "length", "for", "if", "while", "switch", "return");
+    Matcher m = Pattern.compile("(new )?\\b(\\w+)\\(").matcher(code);
+    while (m.find()) {
+      boolean own = m.group(1) != null || m.group(2).equals("BootSale") || calls.containsKey(m.group(2));
+      holds("4: calls " + m.group(2), own || others.contains(m.group(2)));
+    }
+    for (String name : calls.keySet()) {
+      int deep = depth(name, calls, List.of());
+      holds("8: " + name + " comes to itself", deep < 1000);
+      holds("11: " + name + " goes " + deep + " deep", deep <= 8);
+    }
+  }
+
+  /** How many calls stand open at most while this one does; 1000 and more, if one comes to itself. */
+  private static int depth(String name, Map<String, Set<String>> calls, List<String> open) {
+    if (open.contains(name)) return 1000;
+    List<String> now = new ArrayList<>(open);
+    now.add(name);
+    int deepest = 0;
+    for (String called : calls.get(name)) deepest = Math.max(deepest, depth(called, calls, now));
+    return deepest + 1;
+  }
+
+  /** Which methods of the file each one calls. */
+  private static Map<String, Set<String>> methods(String[] lines) {
+    Pattern head = Pattern.compile("^(  |    )((public|private|static|final) )*[\\w\\[\\]]+ (\\w+)\\(([^)]*)\\) \\{$");
+    Map<String, StringBuilder> bodies = new TreeMap<>();
+    String name = "";
     int start = -1;
     String indent = "";
     for (int i = 0; i < lines.length; i++) {
@@ -96,12 +131,25 @@ public final class LanguageTest {
       if (m.matches()) {
         start = i;
         indent = m.group(1);
-        holds("11: parameters: " + lines[i], m.group(4).split(",").length <= 7);
+        name = m.group(4);
+        holds("11: parameters: " + lines[i], m.group(5).split(",").length <= 7);
+        // of one name are taken for one, which can only tell more calls than there are
+        bodies.putIfAbsent(name, new StringBuilder());
+      } else if (start >= 0) {
+        bodies.get(name).append(lines[i]).append('\n');
       }
       if (start >= 0 && lines[i].equals(indent + "}")) {
         holds("11: length: " + lines[start], i - start <= 60);
         start = -1;
       }
     }
+    Map<String, Set<String>> calls = new TreeMap<>();
+    for (Map.Entry<String, StringBuilder> body : bodies.entrySet()) {
+      Set<String> called = new TreeSet<>();
+      Matcher m = Pattern.compile("\\b(\\w+)\\(").matcher(body.getValue());
+      while (m.find()) if (bodies.containsKey(m.group(1))) called.add(m.group(1));
+      calls.put(body.getKey(), called);
+    }
+    return calls;
   }
 }
